@@ -653,6 +653,28 @@ public final class ModelTest {
         }
     }
 
+    /** Coefficients, and samples that follow them but for some noise. */
+    static void followCoefficients(Pair p, Random r, int[] v, int depth) {
+        int order = 1 + r.nextInt(Math.min(4, v.length));
+        int shift = 6 + r.nextInt(4);
+        double angle = 0.3 + r.nextDouble() * 2;
+        double[] c = {2 * 0.97 * Math.cos(angle), -0.97 * 0.97, 0.1, -0.1};
+        if (order == 1) c[0] = r.nextBoolean() ? 0.5 : -0.9;
+        long all = r.nextLong() << 40;
+        int[] whole = new int[order];
+        for (int j = 0; j < order; j++) {
+            whole[j] = (int) Math.max(-512, Math.min(511, Math.round(c[j] * (1 << shift))));
+            all |= (whole[j] & 1023L) << (10 * j);
+        }
+        double noise = r.nextInt(3) * 0.4;
+        for (int i = order; i < v.length; i++) {
+            long s = 0;
+            for (int j = 0; j < order; j++) s += (long) whole[j] * v[i - 1 - j];
+            v[i] = clip(Math.floorDiv(s, 1L << shift) + r.nextGaussian() * noise, depth);
+        }
+        p.coefficients(order, shift, all);
+    }
+
     static void packRun(int seed) {
         Random r = new Random(seed);
         Pair p = new Pair("pack run " + seed);
@@ -665,6 +687,8 @@ public final class ModelTest {
             int n = drawN(r);
             int[] zero = shape(r, n, depth);
             int[] one = shape(r, n, depth);
+            tellCoefficients(p, r);
+            if (r.nextInt(3) == 0) followCoefficients(p, r, zero, depth);
             int mix = r.nextInt(6);
             boolean two = mix != 0;
             for (int i = 0; i < n; i++) {
@@ -680,7 +704,6 @@ public final class ModelTest {
             }
             if (r.nextInt(20) == 0) p.sample(r.nextInt(2), 0);
             p.depth(3);
-            tellCoefficients(p, r);
             p.lookAtPrices();
             if (p.pack() >= 0) {
                 p.countPacked();
