@@ -388,7 +388,7 @@ public final class SamplePacks {
 
         void write(int number, int bits) {
             for (int i = bits - 1; i >= 0; i--) {
-                writeBit(number >> i & 1);
+                writeBit((number >> i) & 1);
             }
         }
 
@@ -410,7 +410,7 @@ public final class SamplePacks {
         }
 
         /** Keeps a fault, if there is one and none came first; whether there is any now. */
-        boolean isFaulty(boolean wrong, int which) {
+        boolean faultIf(boolean wrong, int which) {
             if (wrong && fault == 0) {
                 fault = which;
             }
@@ -419,12 +419,12 @@ public final class SamplePacks {
 
         /** A number; 0 behind a fault. */
         int read(int bits) {
-            if (isFaulty(position + bits > 8 * length, FAULT_END)) {
+            if (faultIf(position + bits > 8 * length, FAULT_END)) {
                 return 0;
             }
             int number = 0;
             for (int i = 0; i < bits; i++) {
-                number = 2 * number + (bytes[position >> 3] >> (7 - (position & 7)) & 1);
+                number = 2 * number + ((bytes[position >> 3] >> (7 - (position & 7))) & 1);
                 position++;
             }
             return number;
@@ -442,7 +442,7 @@ public final class SamplePacks {
                     return unfold((ones << k) + read(k));
                 }
             }
-            isFaulty(true, FAULT_VALUE);
+            faultIf(true, FAULT_VALUE);
             return 0;
         }
     }
@@ -735,7 +735,7 @@ public final class SamplePacks {
         private void mixChannels() {
             for (int i = 0; i < n; i++) {
                 rows[SIDE][i] = rows[0][i] - rows[1][i];
-                rows[MIDDLE][i] = rows[0][i] + rows[1][i] >> 1;
+                rows[MIDDLE][i] = (rows[0][i] + rows[1][i]) >> 1;
             }
         }
 
@@ -869,7 +869,7 @@ public final class SamplePacks {
                 } else {
                     int side = b;
                     int both = 2 * a + (side & 1);
-                    a = both + side >> 1;
+                    a = (both + side) >> 1;
                     b = a - side;
                 }
                 if (!fits(a, sampleBits) || !fits(b, sampleBits)) {
@@ -898,12 +898,12 @@ public final class SamplePacks {
             n = count;
             int kind = stream.read(KIND_BITS);
             int wasted = stream.read(WASTED_BITS);
-            if (stream.isFaulty(wasted >= rowBits, FAULT_WASTED)) {
+            if (stream.faultIf(wasted >= rowBits, FAULT_WASTED)) {
                 return kind;
             }
             b = rowBits - wasted;
             if (kind == LIKE) {
-                Arrays.fill(v, 0, n, stream.readSigned(b));
+                fillRow(v, stream.readSigned(b));
             } else if (kind == PLAIN) {
                 readValues(v, n);
             } else {
@@ -915,6 +915,12 @@ public final class SamplePacks {
             return kind;
         }
 
+        private void fillRow(int[] v, int value) {
+            for (int i = 0; i < n; i++) {
+                v[i] = value;
+            }
+        }
+
         private void readValues(int[] v, int count) {
             for (int i = 0; i < count; i++) {
                 v[i] = stream.readSigned(b);
@@ -923,7 +929,7 @@ public final class SamplePacks {
 
         private void readForetold(int[] v, int kind) {
             int order = kind == FORETOLD ? 1 + stream.read(ORDER_BITS) : kind - FIXED;
-            if (stream.isFaulty(order > n, FAULT_ORDER)) {
+            if (stream.faultIf(order > n, FAULT_ORDER)) {
                 return;
             }
             if (kind == FORETOLD) {
@@ -933,7 +939,7 @@ public final class SamplePacks {
             }
             readValues(v, order);
             int p = stream.read(P_BITS);
-            if (stream.isFaulty(!mayBeP(p, n, order), FAULT_P)) {
+            if (stream.faultIf(!mayBeP(p, n, order), FAULT_P)) {
                 return;
             }
             int each = n >> p;
@@ -953,13 +959,13 @@ public final class SamplePacks {
         private void readPart(int[] v, int from, int to) {
             int k = stream.read(K_BITS);
             int x = k == K_OF_WIDTHS ? stream.read(X_BITS) : 0;
-            if (stream.isFaulty(x > MOST_REST_BITS, FAULT_X)) {
+            if (stream.faultIf(x > MOST_REST_BITS, FAULT_X)) {
                 return;
             }
             for (int i = from; i < to; i++) {
                 int rest = k == K_OF_WIDTHS ? stream.readSigned(x) : stream.readFolded(k);
                 int value = f.foretell(v, i) + rest;
-                if (stream.isFaulty(!fits(value, b), FAULT_VALUE)) {
+                if (stream.faultIf(!fits(value, b), FAULT_VALUE)) {
                     return;
                 }
                 v[i] = value;
@@ -981,7 +987,6 @@ public final class SamplePacks {
         int readFrame(int place, OpenedFrame into) {
             stream.begin(place);
             readHead(into);
-            into.kinds[0] = NONE;
             into.kinds[1] = NONE;
             if (stream.fault == 0) {
                 int rowBits = bitsOfRow(FIRST_ROW[into.turn], into.sampleBits);
@@ -999,12 +1004,12 @@ public final class SamplePacks {
 
         private void readHead(OpenedFrame into) {
             into.n = 1 + stream.read(N_BITS);
-            if (stream.isFaulty(into.n > MOST_SAMPLES, FAULT_N)) {
+            if (stream.faultIf(into.n > MOST_SAMPLES, FAULT_N)) {
                 return;
             }
             into.channels = 1 + stream.read(CHANNELS_BITS);
             into.turn = stream.read(TURN_BITS);
-            if (stream.isFaulty(into.channels == 1 && into.turn != 0, FAULT_TURN)) {
+            if (stream.faultIf(into.channels == 1 && into.turn != 0, FAULT_TURN)) {
                 return;
             }
             into.sampleBits = 1 + stream.read(DEPTH_BITS);
@@ -1012,16 +1017,16 @@ public final class SamplePacks {
 
         private void readEnd(int place, OpenedFrame into) {
             int padding = stream.read(stream.bitsToByte());
-            if (stream.isFaulty(padding != 0, FAULT_PADDING)) {
+            if (stream.faultIf(padding != 0, FAULT_PADDING)) {
                 return;
             }
             int due = stream.sumOf(place, stream.placeNow());
             int sum = stream.read(SUM_BITS);
-            if (stream.isFaulty(sum != due, FAULT_SUM)) {
+            if (stream.faultIf(sum != due, FAULT_SUM)) {
                 return;
             }
             into.behind = stream.placeNow();
-            stream.isFaulty(!into.unturn(), FAULT_SAMPLE);
+            stream.faultIf(!into.unturn(), FAULT_SAMPLE);
         }
     }
 }
