@@ -376,6 +376,10 @@ public final class CallEdgesTest {
                 "drop(1) 0", "sample(0, 7) 3", "sample(0, 8) BAD", "price(0, 1) 19", "drop(0) 3", "depth(16) 4",
                 "take() 2", "depth(16) NO", "pack() 5", "drop(0) 2", "depth(4) 4",
                 "cut(0) 10", "take() 2", "take() 2", "drop(0) 2", "shown(0) 2");
+        run("What it showed becomes the SAMPLES: of both channels, in their order").samples(0, 9, 8, 7, 6).samples(1, 1, 2, 3)
+            .frame("000000010 1 00 0011  001 0000 0111 1000 0001  001 0000 0010 1111 1101")
+            .calls("open(0) 3", "take() 3", "cut(0) 8", "pack() 0", "drop(0) 3", "drop(1) 3", "open(0) 3")
+            .dueChannel(0, 7, -8, 1).dueChannel(1, 2, -1, -3);
         run("its DEPTH that at hand: also with SAMPLES of a greater one")
             .frame("000000000 1 00 0000  000 0000 1  000 0000 0")
             .samples(0, 30000, 30001).samples(1, -30000)

@@ -294,6 +294,9 @@ public final class OpeningEdgesTest {
         // order 4, SHIFT 15, of -512 and 511: 1, 2, 3, 4 foretell (-2048 + 1533 - 1024 + 511) by 2^15: -1
         opens(sentence + ": COEFFICIENTS of order 4", "000000100 0 00 0011  111 0000 11 1111 1000000000 0111111111"
             + " 1000000000 0111111111  0001 0010 0011 0100  000 0000 0", 5).dueChannel(0, 1, 2, 3, 4, -1);
+        // a SHIFT of 3 in the first row does not count in the second one
+        opens(sentence + ": FIXED behind FORETOLD", "000000001 1 00 0011  111 0000 00 0011 0000001000 0101 000 0000 0"
+            + "  011 0000 0110 000 0000 0", 2).dueChannel(0, 5, 5).dueChannel(1, 6, 6);
         opens(sentence + ": both rows in the other ways", "000000001 1 11 0011  001 0000 0010 1111  011 0000 00001 000 0010 1000",
             2).dueChannel(0, 3, 1).dueChannel(1, 2, -2);
     }

@@ -40,6 +40,9 @@ public final class PackingEdgesTest {
             .calls("pack() 0", "told(1) 1", "told(2) 0").dueFrame(0, "000000000 0 00 0000  000 0000 1")
             .calls("sample(1, -1) 1", "pack() 4", "told(1) 2", "told(2) 0")
             .dueFrame(4, "000000000 1 00 0000  000 0000 1  000 0000 1");
+        // the frame ahead had a TURN of its own
+        run("TURN in 2 (0 with one channel)", 16, 10001).samples(1, -1519).calls("pack() 0", "told(2) 1", "drop(1) 1",
+            "pack() 8", "told(2) 0").dueFrame(8, "000000000 0 00 1111  000 0000 0010011100010001").calls("open(8) 1", "shown(2) 0");
         for (int depth = 1; depth <= 16; depth++) {
             // the greatest value; the rows end 0 to 7 bits ahead of a byte's end
             int most = (1 << (depth - 1)) - 1;
@@ -99,6 +102,15 @@ public final class PackingEdgesTest {
         run(sentence + ": two bits of DEPTH 1", 1, 0, -1, 0).samples(1, 0, -1, 0).calls("pack() 0")
             .dueFrame(0, "000000010 1 01 0000  001 0000 0 1 0  000 0000 00")
             .calls("open(0) 3").dueChannel(0, 0, -1, 0).dueChannel(1, 0, -1, 0);
+    }
+
+    private static void longRows() {
+        // 400 of each, TURN 1: channel 0 is -1, -8, -1 and so on, channel 1 is 2 more
+        String zero = "001 0000" + "1111 1000".repeat(200);
+        run("A FRAME of n SAMPLES (1 .. 400) of two channels").frame("110001111 1 01 0011  " + zero + "  000 0000 11110")
+            .calls("open(0) 400", "shown(2) 1", "got(0, 399) -8", "got(1, 398) 1", "got(1, 399) -6", "got(1, 400) throws",
+                "take() 400", "pack() 206", "told(0) 400", "told(1) 2", "told(2) 1", "told(3) 1634", "told(4) 206",
+                "open(206) 400", "got(0, 0) -1", "got(0, 399) -8", "got(1, 0) 1", "got(1, 399) -6", "frames() 2");
     }
 
     private static void wasted() {
@@ -419,6 +431,9 @@ public final class PackingEdgesTest {
             "row(1, 0) BAD", "row(1, 3) BAD", "row(1, 10) BAD", "row(-1, 0) BAD", "row(2, 0) BAD", "row(most, 0) BAD");
         run("3 p (NONE without RESTS): of PLAIN", 3, 3, -4, 1).calls("pack() 0", "row(0, 0) 1", "row(0, 1) 0", "row(0, 2) 16",
             "row(0, 3) NONE", "row(0, 10) BAD", "row(0, 30) BAD");
+        run("3 p (NONE without RESTS): of the second ROW, the first one has them", 16, 1, -1, 1, -1, 1, -1, 0, 0)
+            .samples(1, 1001, 1001, 1001, 1001, 1001, 1001, 1001, 1001).calls("pack() 0", "told(2) 0", "row(0, 0) 2",
+            "row(0, 3) 0", "row(0, 10) 0", "row(1, 0) 0", "row(1, 3) NONE", "row(1, 10) BAD", "row(1, 30) BAD");
         run("10 + j: k of PART j, 30 + j: its x (NONE: k is not 15)", 16, 33, -1).calls("pack() 0", "row(0, 3) 0",
             "row(0, 10) 4", "row(0, 11) BAD", "row(0, 30) NONE", "row(0, 31) BAD", "row(1, 0) BAD");
         run("no such ROW: the latest pack() had one, the one ahead two", 16, 8, 8).samples(1, 1001, 1003).calls("pack() 0",
@@ -436,7 +451,8 @@ public final class PackingEdgesTest {
         run("NO: the KIND may not be", 5, 1, 2).calls("price(0, 0) NO", "price(0, 5) NO", "price(0, 6) NO", "price(0, 7) NO",
             "coefficients(3, 0, 0) 0", "price(0, 7) NO", "sample(0, 3) 3", "price(0, 7) 65", "price(0, 5) 29", "price(0, 6) NO");
         run("what price() tries does not show", 16, 8, 8).calls("pack() 0", "price(0, 6) NO", "price(0, 2) 20", "row(0, 0) 0",
-            "row(0, 3) NONE", "told(3) 36", "pack() 6", "row(0, 0) 0");
+            "row(0, 3) NONE", "told(3) 36", "price(0, 2) 20", "pack() 6", "row(0, 0) 0", "row(0, 3) NONE", "row(0, 10) BAD",
+            "row(0, 30) BAD");
     }
 
     public static void main(String[] args) {
@@ -445,6 +461,7 @@ public final class PackingEdgesTest {
         numbers();
         turns();
         sideBits();
+        longRows();
         wasted();
         kinds();
         fixedOrders();
